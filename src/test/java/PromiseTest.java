@@ -376,6 +376,20 @@ public final class PromiseTest {
         due("nothing more is undone", q.black(0), 1L << 56);
         q.flip(1);
         due("an act without a change is one", q.count(4), 1);
+        long[][] states = new long[21][3];
+        q = with("qbwgs", cell(1, 0), "qwqbwwbwb");
+        for (int i = 0; i < 21; i++) {
+            for (int picture = 0; picture < 3; picture++) {
+                states[i][picture] = q.black(picture);
+            }
+            q.turn(i * i % 3);
+        }
+        for (int i = 20; i > 6; i--) {
+            due("undo step by step", q.undo(), i - 7);
+            for (int picture = 0; picture < 3; picture++) {
+                due("undone step by step", q.black(picture), states[i][picture]);
+            }
+        }
     }
 
     private static void promise14() {
@@ -416,6 +430,11 @@ public final class PromiseTest {
         looks("qqqbwwbwwwwww", 2, 9, 2, 8, 2);
         looks("qqqwbbwwwwwww", 2, 13, 2, 8, 2);
         looks("qwwqwwwqwbbbw", 3, 13, 1, 8, 3);
+        // two legs that hang together above alone, below alone, at the left, at the right
+        looks("qqqbwbbqbwbwwwwww", 5, 17, 1, 12, 5);
+        looks("qqqbbbwqbwbwwwwww", 5, 17, 1, 12, 5);
+        looks("qqqbbbwwqbbwwwwww", 5, 13, 1, 12, 5);
+        looks("qqqbbwbwqbbwwwwww", 5, 13, 1, 12, 5);
         // a snake: stripes, and cells between them at their ends by turns
         QuarterWords q = with("s");
         int[] ends = {7, 0, 7};
@@ -580,6 +599,11 @@ public final class PromiseTest {
         due("grown", q.judge(2, 720_912), 1);
         due("grown corner", q.judge(4, 723_723_723_812L), 3);
         due("alike of one twice", q.judge(1, 911), NONE);
+        QuarterWords cells = with(cell(1, 0), cell(7, 1), cell(6, 0));
+        due("turned, it meets the one", cells.judge(3, 400_201_801L), NONE);
+        due("turned, it meets not the other", cells.judge(3, 400_202_801L), 2);
+        due("flipped, it meets the other", cells.judge(3, 500_202_801L), NONE);
+        due("flipped, it meets not the one", cells.judge(3, 500_201_801L), 2);
         due("parts of none", q.judge(1, 800), NONE);
         long[] never = {0, 103, 130, 100, 111, 203, 222, 303, 330, 311, 403, 411, 410, 503, 512,
             604, 630, 704, 730, 830, 803, 903, 930, 1, 999};
@@ -802,6 +826,7 @@ public final class PromiseTest {
             due("seed behind a year", (q.seed(0) >>> 33) % 36, lot);
             same("years", q, before);
         }
+        promise28OfMany();
         QuarterWords q = with("b");
         int[] outside = {0, 31, -1, Integer.MIN_VALUE, Integer.MAX_VALUE};
         q.seed(9);
@@ -816,6 +841,37 @@ public final class PromiseTest {
             seed = seed * 6364136223846793005L + 1442695040888963407L;
         }
         due("seed behind 30 years", q.seed(0), seed);
+    }
+
+    /** Years are what acts on another object, by the same lots, come to. */
+    private static void promise28OfMany() {
+        for (int run = 0; run < 200; run++) {
+            QuarterWords q = with("qbwgs", "qwqbqwbwwwsbg", "qgqbwwwbs");
+            QuarterWords acted = with("qbwgs", "qwqbqwbwwwsbg", "qgqbwwwbs");
+            int m = 1 + run % 30;
+            q.seed(run);
+            long seed = run;
+            int sum = 0;
+            for (int year = 0; year < m; year++) {
+                seed = seed * 6364136223846793005L + 1442695040888963407L;
+                act(acted, (int) ((seed >>> 33) % 36));
+                sum += acted.count(1);
+            }
+            due("years by acts", q.years(m), sum);
+            due("seed by acts", q.seed(0), seed);
+        }
+    }
+
+    private static void act(QuarterWords q, int lot) {
+        if (lot < 27) {
+            pair(q, lot / 9, lot % 9 / 3, lot % 3);
+        } else if (lot < 30) {
+            q.turn(lot - 27);
+        } else if (lot < 33) {
+            q.halve(lot - 30, 0);
+        } else {
+            q.grow(lot - 33, 0);
+        }
     }
 
     private static int change(int lot) {
@@ -881,6 +937,12 @@ public final class PromiseTest {
         int[] counts = {2, 32 + 16 + 32, 48, 0, 3, 1};
         for (int what = 0; what < 6; what++) {
             due("count " + what, q.count(what), counts[what]);
+        }
+        for (int picture = 0; picture < 3; picture++) {
+            QuarterWords alone = new QuarterWords();
+            text(alone, "qbwww").put(picture);
+            due("in any", alone.count(2), 16);
+            due("in all three", alone.count(3), 0);
         }
         q.less(1, 2);
         q.join(1, 0);
