@@ -9,6 +9,7 @@ import java.nio.file.Path;
 import java.util.HashSet;
 import java.util.Set;
 import java.util.TreeSet;
+import java.util.regex.Matcher;
 import java.util.regex.Pattern;
 
 /** The face of the class, rules of its language that can be read off, and the room that it takes. */
@@ -63,6 +64,8 @@ public final class FormTest {
         }
         for (Class<?> inside : QuarterWords.class.getDeclaredClasses()) {
             check(Modifier.isStatic(inside.getModifiers()), inside + " is static");
+            check(!Modifier.isPublic(inside.getModifiers()) && !Modifier.isProtected(inside.getModifiers()),
+                inside + " is private or package-visible");
             for (Method method : inside.getDeclaredMethods()) {
                 check(!names.contains(method.getName()), method + " bears a name of its own");
             }
@@ -81,12 +84,12 @@ public final class FormTest {
                 check(Modifier.isPrivate(field.getModifiers()), field + " is private");
                 continue;
             }
-            for (int i = 0; i < names.length; i++) {
-                if (names[i].equals(field.getName())) {
-                    check(field.getInt(null) == values[i] && Modifier.isFinal(field.getModifiers()),
-                        names[i] + " is " + values[i]);
-                    found++;
-                }
+            int place = java.util.Arrays.asList(names).indexOf(field.getName());
+            check(place >= 0, field + " is of the face");
+            if (place >= 0) {
+                check(field.getType() == int.class && field.getInt(null) == values[place]
+                    && Modifier.isFinal(field.getModifiers()), names[place] + " is " + values[place]);
+                found++;
             }
         }
         check(found == names.length, "all constants are there");
@@ -104,7 +107,38 @@ public final class FormTest {
         }
         check(!bare.contains("->") && !bare.contains("::"), "no lambda, no method reference");
         check(!bare.contains("Exact("), "none of the exact functions");
+        library(bare);
         shortMethods(bare);
+    }
+
+    /** A name with a capital ahead of a dot is of the library, unless it is of the class itself. */
+    private static void library(String bare) {
+        check(!Pattern.compile("\\b(import|java|javax|sun)\\b").matcher(bare).find(), "nothing from outside");
+        Set<String> listed = Set.of("Math.min", "Math.max", "Math.abs", "Long.bitCount");
+        Matcher use = Pattern.compile("\\b([A-Z][a-z]\\w*)\\.(\\w+)").matcher(bare);
+        while (use.find()) {
+            boolean own = bare.contains("class " + use.group(1) + " ");
+            check(own || listed.contains(use.group()), use.group() + " is listed by rule 4");
+        }
+    }
+
+    /** Rule 5: static fields are final, of the types that it names. */
+    private static void statics() {
+        Set<Class<?>> types = Set.of(int.class, long.class, boolean.class, char.class, String.class,
+            int[].class, long[].class, char[].class, byte[].class);
+        Set<Class<?>> classes = new HashSet<>(java.util.Arrays.asList(QuarterWords.class.getDeclaredClasses()));
+        check(classes.size() < 12, "at most some twelve classes");
+        classes.add(QuarterWords.class);
+        for (Class<?> one : classes) {
+            int fields = 0;
+            for (Field field : one.getDeclaredFields()) {
+                boolean isStatic = Modifier.isStatic(field.getModifiers());
+                fields += isStatic ? 0 : 1;
+                check(!isStatic || Modifier.isFinal(field.getModifiers()) && types.contains(field.getType()),
+                    field + " is a constant");
+            }
+            check(fields <= 20, one + " has at most some twenty fields");
+        }
     }
 
     private static void shortMethods(String bare) {
@@ -169,6 +203,7 @@ public final class FormTest {
     public static void main(String[] args) throws Exception {
         face();
         constants();
+        statics();
         language();
         room();
         System.out.println(wrong == 0 ? "form: all as due" : wrong + " rules are broken");
